@@ -713,14 +713,14 @@ public final class UnderTheSofa {
         if (k < 0 || k > WEEK || v < 1 || v > 9) {
             return NONE;
         }
-        int bestDays = 0;
-        int least = Integer.MAX_VALUE;
+        int bestDays = NONE;
+        int least = 0;
         for (int days = 0; days < 1 << WEEK; days++) {
             if (Integer.bitCount(days) != k) {
                 continue;
             }
             int lies = dustOfWeek(days, v);
-            if (lies < least) {
+            if (bestDays == NONE || lies < least) {
                 least = lies;
                 bestDays = days;
             }
