@@ -164,9 +164,14 @@ public final class ChanceTest {
     }
 
     private static int seedWhoseFirstDrawIs(int draw) {
+        return seedWhoseFirstDrawIs(draw, 0L);
+    }
+
+    /** R would have a sign if it were an int, for a least of 1 << 31. */
+    private static int seedWhoseFirstDrawIs(int draw, long least) {
         for (int seed = 0; seed < 1000000; seed++) {
             long r = seed * 1103515245L + 12345L & 0xffffffffL;
-            if (r / 65536 % 8 == draw) {
+            if (r >= least && r / 65536 % 8 == draw) {
                 return seed;
             }
         }
@@ -185,6 +190,8 @@ public final class ChanceTest {
         check.row("a turn", x, 0, 18);
         check.due("a day", x.weeks(seedWhoseFirstDrawIs(7), 1), 0);
         check.row("a day", x, 0, 21);
+        check.due("a day, R without sign", x.weeks(seedWhoseFirstDrawIs(7, 1L << 31), 1), 0);
+        check.row("a day, R without sign", x, 0, 21);
         check.due("weeks(1, 0)", x.weeks(1, 0), -1);
         check.due("weeks(1, 61)", x.weeks(1, 61), -1);
         check.row("the row stays", x, 0, 21);

@@ -193,6 +193,9 @@ public final class WaysTest {
         check.row("the least row", x, 1, 0);
         x.best(6);
         check.row("the least row of six", x, 1, 0, 3, 6, 7, 8);
+        x.sheet(2, 6, -45, 10);
+        check.due("the fewest steps, though a less row leads there", x.best(6), 5);
+        check.row("the fewest steps, though a less row leads there", x, 5);
         x.carry(8, 0);
         x.sheet(2, 3, 9, 0);
         check.due("far dust", x.best(2), 9);
