@@ -83,6 +83,25 @@ final class Check {
         return x;
     }
 
+    /** Whether a call throws what the document names; anything else that is thrown goes on to the caller. */
+    void throwsNone(String call, Runnable asked) {
+        int thrown = 0;
+        try {
+            asked.run();
+        } catch (NoSuchElementException e) {
+            thrown = 1;
+        }
+        due(call + " throws", thrown, 1);
+    }
+
+    int asked() {
+        return asked;
+    }
+
+    int wrong() {
+        return wrong;
+    }
+
     void close(String name) {
         System.out.println(name + ": " + asked + " answers, " + wrong + " wrong");
         if (wrong != 0) {
