@@ -1812,9 +1812,9 @@ public final class UnderTheSofa {
             }
         }
 
+        /** As good is not enough: what is found later has as many steps, and its row is not less. */
         private boolean canBeBetter(int depth, int had) {
-            int hoped = had + (limit - depth) * richest;
-            return hoped > mostDust || hoped == mostDust && depth + 1 < fewest;
+            return had + (limit - depth) * richest > mostDust;
         }
 
         private void noteFound(int depth, int had) {

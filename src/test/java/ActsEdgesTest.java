@@ -331,6 +331,9 @@ public final class ActsEdgesTest extends Edges {
             check.due("chairs", x.count(3), 3);
             check.due("c01c35", run(x, "c01c35"), 2);
             check.due("chairs", x.count(3), 1);
+            check.due("the last one taken up", run(x, "c10"), 1);
+            check.row("the last one taken up", x, 0, 0);
+            check.due("chairs", x.count(3), 0);
             check.due("none such", run(x, "c36"), 0);
             check.due("none such", run(x, "c99"), 0);
             check.due("the machine", run(x, "c00"), 0);

@@ -182,6 +182,10 @@ public final class ChanceEdgesTest extends Edges {
             looksLike(check, "..", 4, 1);
             looksLike(check, "./.", 4, 1);
             looksLike(check, "../../..", 4, 1);
+            looksLike(check, ".#", 0, 0);
+            looksLike(check, "./#", 0, 1);
+            looksLike(check, ".##", 0, 0);
+            looksLike(check, ".#./###", 0, 1);
             looksLike(check, "..r/r..", 4, 0);
         });
         edge(37, "the ROW: how many, 1 if it does in a mirror (left and right changed), else 0.", check -> {
@@ -236,6 +240,9 @@ public final class ChanceEdgesTest extends Edges {
             x.sheet(2, 11, 9, 99);
             check.due("9 and ten by 99", x.box(999), 1);
             check.row("9 and ten by 99", x, 2047);
+            x.sheet(2, 20, 46, 1);
+            check.due("all of 46 to 65 but two", x.box(999), 10);
+            check.row("all of 46 to 65 but two", x, 0);
         });
         edge(38, "the ROW: SPOTS (bits) that are in all of these ways (0 without).", check -> {
             UnderTheSofa x = in("....");

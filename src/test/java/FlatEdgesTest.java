@@ -24,6 +24,19 @@ public final class FlatEdgesTest extends Edges {
             check.due("free", x.spot(0, 5), 1);
             check.due("no plug", x.count(5), NONE);
             check.throwsNone("a second spot", () -> x.spot(1, 0));
+            int[] counts = {1, 1, 1, 0, 0, NONE, 0, 0, 0, 0, 0};
+            for (int what = 0; what < counts.length; what++) {
+                check.due("count(" + what + ")", x.count(what), counts[what]);
+            }
+            check.due("undo()", x.undo(), NONE);
+            for (int i = 0; i <= 2; i++) {
+                check.due("again(" + i + ")", x.again(i), false);
+            }
+            for (int heading = 0; heading < 4; heading++) {
+                check.due("ahead by " + heading, x.machine(7), NONE);
+                x.turn(1);
+            }
+            check.due("places", x.felt(1), 4);
         });
     }
 
@@ -124,6 +137,21 @@ public final class FlatEdgesTest extends Edges {
             check.due("36", flat(x, GREATEST), 36);
             check.due("35", flat(x, "#" + GREATEST.substring(1)), 35);
         });
+        edge(4, "THE TEXT is THE FLAT anew:", check -> {
+            UnderTheSofa x = new UnderTheSofa();
+            for (String text : new String[] {"qr", "..", "..", "r.x", "..", "p.x", "..", "p.", "q.", "..", "..", "r#/#r", "..", ".."}) {
+                int answer = flat(x, text);
+                boolean bare = text.equals("..");
+                check.due(text + " stands", answer > 0, !text.endsWith("x"));
+                check.due("the plug of " + text, bare ? x.count(5) : NONE, NONE);
+                check.due("the dust of a day in " + text, bare ? x.days(1) : 2, 2);
+                check.due("where it begins in " + text, bare ? x.machine(0) : 0, 0);
+            }
+            for (String text : new String[] {"./././././.", GREATEST, ".../...", "../../..", "......", "...../.....", "./.", "..../..../....", "..."}) {
+                flat(x, text);
+                aheadIsRight(check, x);
+            }
+        });
         edge(4, "no CHAIRS, no DUST;", check -> {
             UnderTheSofa x = in("p..");
             x.chair(1);
@@ -176,6 +204,26 @@ public final class FlatEdgesTest extends Edges {
                 check.due("again(" + i + ")", x.again(i), false);
             }
         });
+    }
+
+    /** Nothing of an older flat's edges is left. */
+    private static void aheadIsRight(Check check, UnderTheSofa x) {
+        int rows = x.count(0);
+        int columns = x.count(1);
+        for (int spot = 0; spot < rows * columns; spot++) {
+            int r = spot / columns;
+            int c = spot % columns;
+            int[] due = {r > 0 ? spot - columns : NONE, c < columns - 1 ? spot + 1 : NONE, r < rows - 1 ? spot + columns : NONE, c > 0 ? spot - 1 : NONE};
+            long neighbours = 0;
+            for (int heading = 0; heading < 4; heading++) {
+                x.carry(spot, heading);
+                check.due("ahead of " + spot + " by " + heading + " in " + rows + " by " + columns, x.machine(7), due[heading]);
+                neighbours |= due[heading] == NONE ? 0 : 1L << due[heading];
+            }
+            for (int to = 0; to < rows * columns; to++) {
+                check.due("a way of one step from " + spot + " to " + to, x.way(spot, to) == 1, (neighbours >> to & 1) == 1);
+            }
+        }
     }
 
     private void cannotStand(Check check, String text, int due) {
@@ -258,6 +306,12 @@ public final class FlatEdgesTest extends Edges {
             check.due("it turns by it", x.machine(1), 2);
             flat(x, "..");
             check.due("a new flat leaves it", x.machine(6), 2);
+            String[] rules = {"-1", "--1", "2", "1+2", "1", "2*3+5", "-3", "1+x", "3", "0", "1-2-3", "2"};
+            int[] due = {3, 1, 2, 3, 1, 3, 1, 1, 3, 0, 0, 2};
+            for (int i = 0; i < rules.length; i++) {
+                rule(x, rules[i]);
+                check.due("nothing of an older rule is left: " + rules[i], x.machine(6), due[i]);
+            }
         });
         edge(5, "(an empty one: none): 0.", check -> {
             UnderTheSofa x = new UnderTheSofa();

@@ -105,8 +105,9 @@ public final class GoingEdgesTest extends Edges {
             x.all();
             check.row("behind a wall", x, 2);
             UnderTheSofa y = in(RING);
+            y.been(3);
             y.all();
-            check.row("a ring", y, 8);
+            check.row("a ring, told anew", y, 8);
             UnderTheSofa z = new UnderTheSofa();
             z.all();
             check.row("one", z, 1);
@@ -232,6 +233,12 @@ public final class GoingEdgesTest extends Edges {
             rule(x, "3");
             check.due("four", x.round(), 4);
             check.due("round a wall", in(RING).round(), 12);
+            UnderTheSofa y = in("q.r#.r/....r./#.rrrr/rr.r.#/...rr./r.#r.r");
+            rule(y, "2+(b=7)*(r*2-1)");
+            y.load(999);
+            y.turn(3);
+            y.steps(51);
+            check.due("a long time", y.round(), 784);
         });
         edge(22, "CURRENT left aside)", check -> {
             check.due("out of current", out("...", 0, 1).round(), 8);

@@ -366,6 +366,16 @@ public final class TermsEdgesTest extends Edges {
             check.row("flat neither", x, 4, 2, 97);
             x.best(0);
             check.row("a row of none", x);
+            allQuestions().forEach((name, question) -> {
+                UnderTheSofa y = lived();
+                UnderTheSofa once = lived();
+                y.angle();
+                once.looks();
+                question.apply(y);
+                question.apply(y);
+                boolean tells = question.apply(once) >= 0 && !name.matches("(meets|back|spot|machine|count).*");
+                check.due(name + " tells its numbers alone", tells ? seen(y).equals(seen(once)) : y.count(9) == 4, true);
+            });
         });
         edge(TERMS, "Sets of SPOTS are bits of longs (SPOT k is bit k).", check -> {
             for (int spot = 0; spot < 36; spot++) {

@@ -228,6 +228,12 @@ public final class WaysEdgesTest extends Edges {
             UnderTheSofa z = in("p....", 2, 0);
             check.due("none behind it", z.doors(), 1);
             check.row("none behind it", z, 2);
+            UnderTheSofa v = in("../p#", 1, 0);
+            check.due("the first spot", v.doors(), 1);
+            check.row("the first spot", v, 1);
+            UnderTheSofa last = in("#p/..", 2, 0);
+            check.due("the last spot", last.doors(), 1);
+            check.row("the last spot", last, 8);
             UnderTheSofa w = in("prr/.../rr.", 8, 0);
             check.due("a dear way is a way too", w.doors(), 0);
         });
@@ -309,6 +315,14 @@ public final class WaysEdgesTest extends Edges {
                 check.due("best(" + n + ")", x.best(n), n);
                 check.due("steps", x.count(9), n);
             }
+            x.sheet(2, 36, 1, 1);
+            x.carry(14, 0);
+            check.due("away from the first one found", x.best(6), 21 + 27 + 33 + 34 + 35 + 36);
+            check.row("away from the first one found", x, 20, 26, 32, 33, 34, 35);
+            UnderTheSofa first = in("..", 1, 0);
+            first.sheet(2, 1, 5, 0);
+            check.due("at the first spot alone", first.best(1), 5);
+            check.row("at the first spot alone", first, 0);
             UnderTheSofa y = in("......", 0, 0);
             y.sheet(2, 6, -400, 99);
             check.due("five steps away, in four", y.best(4), 0);
